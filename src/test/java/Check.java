@@ -16,6 +16,14 @@ final class Check {
         this.name = name;
     }
 
+    static SmokeZones house(int... areasAndHeights) {
+        SmokeZones x = new SmokeZones();
+        for (int i = 0; i < areasAndHeights.length; i += 2) {
+            x.room(areasAndHeights[i], areasAndHeights[i + 1]);
+        }
+        return x;
+    }
+
     void due(String what, long got, long want) {
         checks++;
         if (got != want) {

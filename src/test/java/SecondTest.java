@@ -10,6 +10,8 @@ public final class SecondTest {
         flowIsLimited();
         flowIsOfWhatIsCovered();
         flowIsOfTheDifference();
+        flowNeedsCovering();
+        flowOfOneLitre();
         flowsAllFromWhatIsThen();
         flowsBeforeFans();
         fansInTheirOrder();
@@ -19,14 +21,6 @@ public final class SecondTest {
         warmthIsOfTheEnd();
         breathesWhereItIsLow();
         check.end();
-    }
-
-    private static SmokeZones house(int... areasAndHeights) {
-        SmokeZones x = new SmokeZones();
-        for (int i = 0; i < areasAndHeights.length; i += 2) {
-            x.room(areasAndHeights[i], areasAndHeights[i + 1]);
-        }
-        return x;
     }
 
     private static void smokeAndHeat(String what, SmokeZones x, int room, long smoke, long heat) {
@@ -45,7 +39,7 @@ public final class SecondTest {
     }
 
     private static void runToTheEnd() {
-        SmokeZones x = house(10, 20);
+        SmokeZones x = Check.house(10, 20);
         for (int i = 1; i < 200; i++) {
             check.due("11: run on", x.run(500), 500 * i);
         }
@@ -62,7 +56,7 @@ public final class SecondTest {
     }
 
     private static SmokeZones twoRoomsOnFire() {
-        SmokeZones x = house(10, 20, 12, 22);
+        SmokeZones x = Check.house(10, 20, 12, 22);
         x.opening(0, 1, 3, 2, 17);
         x.opening(1, NONE, 1, 5, 22);
         x.fire(0, 3, 4, 90, 77);
@@ -84,7 +78,7 @@ public final class SecondTest {
     }
 
     private static void flowIsLimited() {
-        SmokeZones x = house(10, 20, 10, 20);
+        SmokeZones x = Check.house(10, 20, 10, 20);
         x.opening(0, 1, 1, 0, 20);
         x.fire(0, 0, 100, 100, 10);
         // 100 litres hang down 10: 5 * 1 * 10 asked, 100 / 16 = 6 go with 1000 * 6 / 100
@@ -100,7 +94,7 @@ public final class SecondTest {
     }
 
     private static void flowIsOfWhatIsCovered() {
-        SmokeZones x = house(100, 20);
+        SmokeZones x = Check.house(100, 20);
         x.opening(0, NONE, 1, 5, 12);
         x.opening(0, NONE, 2, 11, 12);
         x.opening(0, NONE, 50, 0, 10);
@@ -119,7 +113,7 @@ public final class SecondTest {
     }
 
     private static void flowIsOfTheDifference() {
-        SmokeZones x = house(100, 20, 100, 15);
+        SmokeZones x = Check.house(100, 20, 100, 15);
         x.fire(0, 0, 1000, 1000, 7);
         x.fire(1, 0, 800, 800, 9);
         x.opening(0, 1, 1, 3, 13);
@@ -132,7 +126,7 @@ public final class SecondTest {
         smokeAndHeat("11: difference", x, 1, 770, 6930);
         check.due("11: nothing outside", x.balance(2), 0);
 
-        SmokeZones y = house(100, 20, 100, 20);
+        SmokeZones y = Check.house(100, 20, 100, 20);
         y.fire(0, 0, 1000, 1000, 7);
         y.fire(1, 0, 1000, 1000, 9);
         y.fire(1, 0, 99, 99, 9);
@@ -143,8 +137,45 @@ public final class SecondTest {
         smokeAndHeat("11: no difference", y, 1, 1099, 9891);
     }
 
+    private static void flowNeedsCovering() {
+        // 1000 litres: clear up to 10, just the top; the other room is clear far above it
+        SmokeZones x = Check.house(100, 20, 100, 20);
+        x.opening(0, 1, 50, 0, 10);
+        x.opening(1, 0, 50, 0, 10);
+        x.fire(0, 0, 1000, 1000, 7);
+        x.run(1);
+        check.due("11: nothing covered", x.openingAt(0, 1), 0);
+        check.due("11: nothing covered on its other side", x.openingAt(1, 1), 0);
+        check.due("11: nothing lost", x.roomAt(0, 0), 1000);
+    }
+
+    private static void flowOfOneLitre() {
+        SmokeZones x = Check.house(1, 20, 1, 20);
+        x.opening(0, 1, 1, 0, 20);
+        x.fire(1, 0, 16, 16, 3);
+        x.run(1);
+        check.due("11: one litre to its room", x.openingAt(0, 1), -1);
+        smokeAndHeat("11: one litre", x, 0, 1, 3);
+        smokeAndHeat("11: one litre", x, 1, 15, 45);
+        SmokeZones y = Check.house(1, 20, 1, 20);
+        y.opening(0, 1, 1, 0, 20);
+        y.fire(0, 0, 16, 16, 3);
+        y.fan(1, 0, 1);
+        y.run(1);
+        check.due("11: one litre from its room", y.openingAt(0, 1), 1);
+        smokeAndHeat("11: one litre", y, 0, 15, 45);
+        smokeAndHeat("11: one litre, blown with its heat", y, 1, 0, 0);
+        // fifteen litres are no sixteenth of one
+        SmokeZones z = Check.house(1, 20);
+        z.opening(0, NONE, 1, 0, 20);
+        z.fire(0, 0, 15, 15, 3);
+        z.run(1);
+        check.due("11: no litre", z.openingAt(0, 1), 0);
+        smokeAndHeat("11: no litre", z, 0, 15, 45);
+    }
+
     private static void flowsAllFromWhatIsThen() {
-        SmokeZones x = house(10, 20, 10, 20, 10, 20);
+        SmokeZones x = Check.house(10, 20, 10, 20, 10, 20);
         x.opening(0, 1, 1, 0, 20);
         x.opening(1, 2, 1, 0, 20);
         x.opening(0, NONE, 1, 0, 20);
@@ -169,7 +200,7 @@ public final class SecondTest {
     }
 
     private static void flowsBeforeFans() {
-        SmokeZones x = house(10, 20);
+        SmokeZones x = Check.house(10, 20);
         x.opening(0, NONE, 1, 0, 20);
         x.fan(0, 0, 100000);
         x.fire(0, 0, 160, 160, 10);
@@ -179,7 +210,7 @@ public final class SecondTest {
     }
 
     private static void fansInTheirOrder() {
-        SmokeZones x = house(10, 20, 10, 20);
+        SmokeZones x = Check.house(10, 20, 10, 20);
         x.fire(0, 0, 10, 10, 10);
         x.fire(0, 0, 1, 1, 4);
         x.fan(0, 0, 2);
@@ -192,7 +223,7 @@ public final class SecondTest {
     }
 
     private static void fansBeforePressing() {
-        SmokeZones x = house(1, 10);
+        SmokeZones x = Check.house(1, 10);
         x.fire(0, 0, 30, 30, 10);
         x.fan(0, 0, 25);
         x.run(1);
@@ -202,7 +233,7 @@ public final class SecondTest {
     }
 
     private static void pressesOut() {
-        SmokeZones x = house(3, 5);
+        SmokeZones x = Check.house(3, 5);
         x.fire(0, 0, 10, 10, 7);
         x.fire(0, 1, 7, 7, 4);
         x.run(1);
@@ -213,7 +244,7 @@ public final class SecondTest {
         smokeAndHeat("11: pressed", x, 0, 15, 93);
         check.due("11: pressed out", x.balance(4), 12);
         check.due("11: not out", x.balance(2), 0);
-        SmokeZones y = house(3, 5);
+        SmokeZones y = Check.house(3, 5);
         y.fire(0, 0, 15, 15, 7);
         y.run(1);
         smokeAndHeat("11: just what it holds", y, 0, 15, 105);
@@ -222,7 +253,7 @@ public final class SecondTest {
 
     private static void firesBeforeFlows() {
         // 2000 litres in a room that holds 200: seen whole by the flow, and not pressed out before it
-        SmokeZones x = house(10, 20, 10, 20);
+        SmokeZones x = Check.house(10, 20, 10, 20);
         x.opening(0, 1, 50, 0, 20);
         x.opening(0, NONE, 1, 0, 20);
         x.fire(0, 0, 1000, 1000, 10);
@@ -237,7 +268,7 @@ public final class SecondTest {
 
     private static void warmthIsOfTheEnd() {
         // warm while the fire burns, cold when the fan has taken all: nothing notices
-        SmokeZones x = house(10, 20);
+        SmokeZones x = Check.house(10, 20);
         x.opening(0, NONE, 1, 19, 20);
         x.glass(0, 1);
         x.sprinkler(0, 1);
@@ -251,7 +282,7 @@ public final class SecondTest {
     }
 
     private static void breathesWhereItIsLow() {
-        SmokeZones x = house(10, 27, 1, 17, 1, 18);
+        SmokeZones x = Check.house(10, 27, 1, 17, 1, 18);
         x.person(0);
         x.person(1);
         x.person(2);

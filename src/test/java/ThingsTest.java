@@ -29,14 +29,6 @@ public final class ThingsTest {
         check.end();
     }
 
-    private static SmokeZones house(int... areasAndHeights) {
-        SmokeZones x = new SmokeZones();
-        for (int i = 0; i < areasAndHeights.length; i += 2) {
-            x.room(areasAndHeights[i], areasAndHeights[i + 1]);
-        }
-        return x;
-    }
-
     private static void newObject() {
         SmokeZones x = new SmokeZones();
         check.due("1: NONE", SmokeZones.NONE, -1);
@@ -88,7 +80,7 @@ public final class ThingsTest {
     }
 
     private static void openingBounds() {
-        SmokeZones x = house(10, 20, 10, 30);
+        SmokeZones x = Check.house(10, 20, 10, 30);
         int[] noRooms = {LOW, -2, NONE, 2, HIGH};
         for (int room : noRooms) {
             check.argument("3: opening from " + room, () -> x.opening(room, 0, 1, 0, 1));
@@ -122,7 +114,7 @@ public final class ThingsTest {
     }
 
     private static void openingLimit() {
-        SmokeZones x = house(10, 20, 10, 20);
+        SmokeZones x = Check.house(10, 20, 10, 20);
         for (int i = 0; i < 15; i++) {
             check.due("3: opening " + i, x.opening(i % 2, 1 - i % 2, 1, 0, 1), i);
         }
@@ -132,7 +124,7 @@ public final class ThingsTest {
     }
 
     private static void glassRefusals() {
-        SmokeZones x = house(10, 20);
+        SmokeZones x = Check.house(10, 20);
         x.opening(0, NONE, 1, 0, 20);
         x.opening(0, NONE, 1, 0, 20);
         int[] noOpenings = {LOW, -1, 2, HIGH};
@@ -153,7 +145,7 @@ public final class ThingsTest {
 
     /** The smoke is of warmth 50 at once; only glass with a limit of 50 or less breaks. */
     private static void glassBreaks() {
-        SmokeZones x = house(10, 20, 10, 20);
+        SmokeZones x = Check.house(10, 20, 10, 20);
         x.opening(0, NONE, 1, 0, 20);
         x.opening(1, 0, 1, 0, 20);
         x.opening(0, NONE, 1, 0, 20);
@@ -180,7 +172,7 @@ public final class ThingsTest {
         check.due("4: cold", x.roomAt(0, 3), 0);
         check.due("4: open for ever", x.openingAt(0, 0), 1);
 
-        SmokeZones y = house(10, 20);
+        SmokeZones y = Check.house(10, 20);
         y.opening(0, NONE, 1, 0, 20);
         y.fire(0, 0, 160, 160, 50);
         y.run(1);
@@ -190,11 +182,13 @@ public final class ThingsTest {
         check.due("4: the last second's flow stays told", y.openingAt(0, 1), 10);
         y.run(1);
         check.due("4: closed for that second", y.openingAt(0, 1), 0);
+        check.due("4: no smoke goes", y.roomAt(0, 0), 200);
+        check.due("4: no heat goes", y.roomAt(0, 1), 200 * 50);
         check.due("4: and then broken", y.openingAt(0, 0), 1);
     }
 
     private static void fireBounds() {
-        SmokeZones x = house(10, 20);
+        SmokeZones x = Check.house(10, 20);
         x.run(7);
         int[] noRooms = {LOW, -2, NONE, 1, HIGH};
         for (int room : noRooms) {
@@ -223,7 +217,7 @@ public final class ThingsTest {
     }
 
     private static void fireLimit() {
-        SmokeZones x = house(10, 20);
+        SmokeZones x = Check.house(10, 20);
         for (int i = 0; i < 5; i++) {
             check.due("5: fire " + i, x.fire(0, 0, 1, 1, 1), i);
         }
@@ -234,7 +228,7 @@ public final class ThingsTest {
     }
 
     private static void fireGrows() {
-        SmokeZones x = house(100, 100);
+        SmokeZones x = Check.house(100, 100);
         x.fire(0, 2, 7, 20, 3);
         int[] madeBehind = {0, 0, 7, 21, 41, 61};
         for (int second = 0; second < madeBehind.length; second++) {
@@ -245,7 +239,7 @@ public final class ThingsTest {
     }
 
     private static void sprinklerRefusals() {
-        SmokeZones x = house(10, 20, 10, 20);
+        SmokeZones x = Check.house(10, 20, 10, 20);
         int[] noRooms = {LOW, -2, NONE, 2, HIGH};
         for (int room : noRooms) {
             check.argument("6: sprinkler in " + room, () -> x.sprinkler(room, 1));
@@ -264,7 +258,7 @@ public final class ThingsTest {
     }
 
     private static void sprinklerHalves() {
-        SmokeZones x = house(100, 100, 100, 100);
+        SmokeZones x = Check.house(100, 100, 100, 100);
         x.sprinkler(0, 30);
         x.sprinkler(1, 31);
         x.fire(0, 0, 7, 7, 30);
@@ -284,7 +278,7 @@ public final class ThingsTest {
         check.due("6: made is what was halved", x.balance(0), 7 + 3 + 3 + 21);
         check.state("6: has one that acts", () -> x.sprinkler(0, 30));
         // a fire of one litre a second makes nothing below a sprinkler
-        SmokeZones y = house(100, 100);
+        SmokeZones y = Check.house(100, 100);
         y.sprinkler(0, 1);
         y.fire(0, 0, 1, 1, 1);
         y.run(10);
@@ -292,7 +286,7 @@ public final class ThingsTest {
     }
 
     private static void fanBounds() {
-        SmokeZones x = house(10, 20);
+        SmokeZones x = Check.house(10, 20);
         x.run(7);
         int[] noRooms = {LOW, -2, NONE, 1, HIGH};
         for (int room : noRooms) {
@@ -316,7 +310,7 @@ public final class ThingsTest {
     }
 
     private static void fanTakes() {
-        SmokeZones x = house(100, 100);
+        SmokeZones x = Check.house(100, 100);
         x.fire(0, 0, 10, 10, 10);
         x.fire(0, 0, 1, 1, 5);
         x.fan(0, 1, 3);
@@ -335,7 +329,7 @@ public final class ThingsTest {
     }
 
     private static void steelBounds() {
-        SmokeZones x = house(10, 20);
+        SmokeZones x = Check.house(10, 20);
         int[] noRooms = {LOW, -2, NONE, 1, HIGH};
         for (int room : noRooms) {
             check.argument("8: steel in " + room, () -> x.steel(room, 1));
@@ -355,7 +349,7 @@ public final class ThingsTest {
     }
 
     private static void steelRounds() {
-        SmokeZones x = house(10, 20);
+        SmokeZones x = Check.house(10, 20);
         x.steel(0, 3);
         x.steel(0, 1);
         x.steel(0, 1000);
@@ -377,7 +371,7 @@ public final class ThingsTest {
     }
 
     private static void personBounds() {
-        SmokeZones x = house(10, 20);
+        SmokeZones x = Check.house(10, 20);
         int[] noRooms = {LOW, -2, 1, HIGH};
         for (int room : noRooms) {
             check.argument("9: person in " + room, () -> x.person(room));
@@ -396,7 +390,7 @@ public final class ThingsTest {
     }
 
     private static void goBounds() {
-        SmokeZones x = house(10, 20);
+        SmokeZones x = Check.house(10, 20);
         x.person(0);
         x.run(7);
         int[] noPersons = {LOW, -1, 1, HIGH};
@@ -417,7 +411,7 @@ public final class ThingsTest {
     }
 
     private static void goStates() {
-        SmokeZones x = house(10, 20);
+        SmokeZones x = Check.house(10, 20);
         x.person(NONE);
         x.person(NONE);
         x.go(0, 5, 0);
@@ -437,7 +431,7 @@ public final class ThingsTest {
     }
 
     private static void goMoves() {
-        SmokeZones x = house(10, 10, 10, 30);
+        SmokeZones x = Check.house(10, 10, 10, 30);
         x.person(NONE);
         x.go(0, 0, 0);
         x.go(0, 2, 1);
@@ -450,7 +444,7 @@ public final class ThingsTest {
         }
         // room 0 is low even without smoke: it breathed in seconds 0, 1, 5, 6
         check.due("10: goes before it breathes", x.personAt(0, 2), 4);
-        SmokeZones y = house(10, 10);
+        SmokeZones y = Check.house(10, 10);
         y.person(NONE);
         y.go(0, 3, 0);
         y.run(3);

@@ -112,7 +112,6 @@ public final class ToldTest {
         x.run(1);
         check.due("13: again", x.openingAt(0, 1), 19);
         x.fire(1, 2, 1000, 1000, 10);
-        x.sprinkler(0, 10);
         // room 1: 29 + 1000 = 1029, 64 of it a sixteenth, all of 20 covered; room 0: 160, covered 16
         x.run(1);
         check.due("13: from the other room", x.openingAt(0, 1), -20);
