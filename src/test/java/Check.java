@@ -8,6 +8,8 @@ final class Check {
         void act();
     }
 
+    private static final int MOST_TOLD = 40;
+
     private final String name;
     private int checks;
     private int wrong;
@@ -28,6 +30,13 @@ final class Check {
         checks++;
         if (got != want) {
             tellWrong(what + " answered " + got + ", due is " + want);
+        }
+    }
+
+    void yes(String what, boolean holds) {
+        checks++;
+        if (!holds) {
+            tellWrong(what);
         }
     }
 
@@ -66,9 +75,12 @@ final class Check {
         }
     }
 
-    void tellWrong(String text) {
+    /** Not more than some of them: one fault can show in many thousand answers. */
+    private void tellWrong(String text) {
         wrong++;
-        System.out.println(name + ": " + text);
+        if (wrong <= MOST_TOLD) {
+            System.out.println(name + ": " + text);
+        }
     }
 
     void end() {

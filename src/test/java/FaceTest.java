@@ -8,8 +8,10 @@ import java.nio.file.Path;
 import java.util.Arrays;
 import java.util.Set;
 import java.util.TreeSet;
+import java.util.regex.Matcher;
+import java.util.regex.Pattern;
 
-/** The public face of the document, and rules of LANGUAGE.md that can be seen from outside. */
+/** The public face of the document, and those rules of LANGUAGE.md that a look at the source can tell. */
 public final class FaceTest {
     private static final Path SOURCE = Path.of("src/main/java/SmokeZones.java");
     private static final String BOTH = " throws IllegalArgumentException, IllegalStateException";
@@ -31,10 +33,16 @@ public final class FaceTest {
         "int steelAt(int)" + ARGUMENT,
         "long balance(int)" + ARGUMENT,
     };
+    /** Words that no rule of LANGUAGE.md leaves. */
     private static final String[] RULED_OUT = {
-        "try", "catch", "finally", "synchronized", "assert", "import", "protected", "package",
-        "Exact", "->", "::", "System.", "Thread", "Random",
+        "package", "protected", "finally", "synchronized", "assert", "\\w+Exact", "Thread", "Random", "hashCode",
+        "System(?!\\.arraycopy)", "getMessage", "native", "volatile", "static \\{",
     };
+    private static final Set<String> IMPORTS = Set.of("java.util.ArrayList", "java.util.List", "java.util.Arrays",
+        "java.util.Iterator", "java.util.NoSuchElementException");
+    private static final Set<String> EXCEPTIONS = Set.of("IllegalStateException", "IllegalArgumentException",
+        "IndexOutOfBoundsException", "ArithmeticException", "UnsupportedOperationException",
+        "NoSuchElementException", "RuntimeException");
     private static final Check check = new Check("FaceTest");
 
     public static void main(String[] args) throws IOException {
@@ -42,12 +50,11 @@ public final class FaceTest {
         fields();
         constructors();
         nestedClasses();
-        words();
+        String code = codeAlone(Files.readString(SOURCE));
+        words(code);
+        importsAndExceptions(code);
+        lambdas(code);
         check.end();
-    }
-
-    private static void yes(String what, boolean holds) {
-        check.due(what, holds ? 1 : 0, 1);
     }
 
     private static void methods() {
@@ -59,14 +66,14 @@ public final class FaceTest {
                 open.add(signature(m));
                 openNames.add(m.getName());
             } else {
-                yes("private: " + m, Modifier.isPrivate(m.getModifiers()));
+                check.yes("private: " + m, Modifier.isPrivate(m.getModifiers()));
                 hiddenNames.add(m.getName());
             }
         }
         Set<String> due = new TreeSet<>(Arrays.asList(METHODS));
-        yes("the public methods are " + due + ", and are " + open, open.equals(due));
+        check.yes("the public methods are " + due + ", and are " + open, open.equals(due));
         hiddenNames.retainAll(openNames);
-        yes("no private method bears a public name: " + hiddenNames, hiddenNames.isEmpty());
+        check.yes("no private method bears a public name: " + hiddenNames, hiddenNames.isEmpty());
     }
 
     private static String signature(Method m) {
@@ -88,8 +95,8 @@ public final class FaceTest {
         for (Field f : SmokeZones.class.getDeclaredFields()) {
             int modifiers = f.getModifiers();
             boolean constant = f.getName().equals("NONE") && Modifier.isPublic(modifiers);
-            yes("NONE or private: " + f, constant || Modifier.isPrivate(modifiers));
-            yes("static fields are final: " + f, !Modifier.isStatic(modifiers) || Modifier.isFinal(modifiers));
+            check.yes("NONE or private: " + f, constant || Modifier.isPrivate(modifiers));
+            check.yes("static fields are final: " + f, !Modifier.isStatic(modifiers) || Modifier.isFinal(modifiers));
         }
         check.due("NONE", SmokeZones.NONE, -1);
     }
@@ -97,26 +104,67 @@ public final class FaceTest {
     private static void constructors() {
         Constructor<?>[] made = SmokeZones.class.getDeclaredConstructors();
         check.due("constructors", made.length, 1);
-        yes("the constructor is public", Modifier.isPublic(made[0].getModifiers()));
+        check.yes("the constructor is public", Modifier.isPublic(made[0].getModifiers()));
         check.due("its parameters", made[0].getParameterCount(), 0);
-        yes("the class is public", Modifier.isPublic(SmokeZones.class.getModifiers()));
-        yes("the class is final", Modifier.isFinal(SmokeZones.class.getModifiers()));
+        check.yes("the class is public", Modifier.isPublic(SmokeZones.class.getModifiers()));
+        check.yes("the class is final", Modifier.isFinal(SmokeZones.class.getModifiers()));
     }
 
     private static void nestedClasses() {
         Class<?>[] nested = SmokeZones.class.getDeclaredClasses();
-        yes("at most some twelve classes", nested.length < 12);
+        check.yes("at most some twelve classes", nested.length < 12);
+        sizes(SmokeZones.class);
         for (Class<?> c : nested) {
-            yes("static and private: " + c, Modifier.isStatic(c.getModifiers()) && Modifier.isPrivate(c.getModifiers()));
+            int modifiers = c.getModifiers();
+            check.yes("not public: " + c, !Modifier.isPublic(modifiers) && !Modifier.isProtected(modifiers));
+            sizes(c);
         }
     }
 
-    private static void words() throws IOException {
-        String source = Files.readString(SOURCE);
-        for (String word : RULED_OUT) {
-            boolean plain = Character.isLowerCase(word.charAt(0));
-            boolean found = plain ? source.matches("(?s).*\\b" + word + "\\b.*") : source.contains(word);
-            yes("not in the program: " + word, !found);
+    private static void sizes(Class<?> c) {
+        int fields = 0;
+        for (Field f : c.getDeclaredFields()) {
+            fields += Modifier.isStatic(f.getModifiers()) ? 0 : 1;
         }
+        check.yes("some twenty fields at most: " + c, fields <= 20);
+        for (Method m : c.getDeclaredMethods()) {
+            check.yes("seven parameters at most: " + m, m.getParameterCount() <= 7);
+        }
+    }
+
+    /** Without texts and comments, whose words are free. */
+    private static String codeAlone(String source) {
+        return source.replaceAll("\"(\\\\.|[^\"\\\\])*\"", "\"\"").replaceAll("(?s)/\\*.*?\\*/", " ").replaceAll("//.*", " ");
+    }
+
+    private static void words(String code) {
+        for (String word : RULED_OUT) {
+            Matcher found = Pattern.compile("\\b" + word).matcher(code);
+            check.yes("not in the program: " + word, !found.find());
+        }
+    }
+
+    private static void importsAndExceptions(String code) {
+        Matcher imported = Pattern.compile("import\\s+([^;]*);").matcher(code);
+        while (imported.find()) {
+            check.yes("no import of " + imported.group(1), IMPORTS.contains(imported.group(1).trim()));
+        }
+        Matcher caught = Pattern.compile("catch\\s*\\(\\s*(?:final\\s+)?([\\w.| ]*?)\\s+\\w+\\s*\\)").matcher(code);
+        while (caught.find()) {
+            for (String name : caught.group(1).split("\\|")) {
+                check.yes("no catch of " + name, EXCEPTIONS.contains(name.trim()));
+            }
+        }
+        Matcher thrown = Pattern.compile("\\bthrow\\s+([^;]*);").matcher(code);
+        while (thrown.find()) {
+            Matcher made = Pattern.compile("new (\\w+)\\((\"\")?\\)").matcher(thrown.group(1).trim());
+            check.yes("thrown as rule 6 says: " + thrown.group(1), made.matches() && EXCEPTIONS.contains(made.group(1)));
+        }
+    }
+
+    private static void lambdas(String code) {
+        String rest = code.replaceAll("\\b(case\\b[^:;{}]*?|default\\s*)->", "");
+        check.yes("no lambda", !rest.contains("->"));
+        check.yes("no method reference", !rest.contains("::"));
     }
 }

@@ -1,16 +1,31 @@
+import java.util.Arrays;
+
 /**
- * Many houses from a fixed row of numbers: nothing is lost from sight, only the promised exceptions
- * are thrown, and a call that throws changes nothing (a twin that never got it answers the same).
+ * Many houses from a fixed row of numbers, each asked what the model is asked: every answer and every
+ * exception is the model's, nothing is lost from sight, and a refused call shows in no later answer.
  */
 public final class HousesTest {
-    private static final int HOUSES = 400;
-    private static final int CALLS = 500;
+    private static final int HOUSES = 1500;
+    /** With all that is asked at the end this stays below the 512 calls for which an object is used. */
+    private static final int CALLS = 340;
+    private static final int[] TOLD = {Model.ROOM_AT, Model.OPENING_AT, Model.PERSON_AT};
+    private static final int[] TOLD_OF = {Model.ROOM, Model.OPENING, Model.PERSON};
+    private static final int[] WHATS = {7, 3, 3};
     private static final Check check = new Check("HousesTest");
 
+    private final SmokeZones house = new SmokeZones();
+    private final Model model = new Model();
+    private final boolean small;
+    private final int longest;
+    /** Asked for more often than the others, so that there come to be as many as can be. */
+    private final int favourite;
     private long seed;
 
-    private HousesTest(long seed) {
-        this.seed = seed;
+    private HousesTest(int number) {
+        seed = number;
+        small = number % 3 != 0;
+        favourite = number % 10;
+        longest = number % 50 == 0 ? 500 : number % 5 == 0 ? 60 : 4;
     }
 
     public static void main(String[] args) {
@@ -25,60 +40,90 @@ public final class HousesTest {
         return (int) ((seed >>> 33) % bound);
     }
 
-    /** Mostly within its bounds, now and then at them or beyond. */
-    private int number(int least, int most) {
-        int kind = below(40);
-        if (kind == 0) {
-            return least - 1;
-        }
-        if (kind == 1) {
-            return most + 1;
-        }
-        if (kind == 2) {
-            return below(2) == 0 ? Integer.MIN_VALUE : Integer.MAX_VALUE;
-        }
-        return least + below(most - least + 1);
-    }
-
     private void live() {
-        SmokeZones house = new SmokeZones();
-        SmokeZones twin = new SmokeZones();
-        int seconds = 0;
         for (int i = 0; i < CALLS; i++) {
-            int[] call = nextCall(seconds);
-            Object got = answer(house, call);
-            if (got instanceof Long) {
-                check.due("a twin's answer to " + text(call), (Long) got, asLong(answer(twin, call)));
-                seconds = call[0] == 9 ? (int) (long) (Long) got : seconds;
-            } else {
-                boolean promised = got == IllegalArgumentException.class || got == IllegalStateException.class;
-                check.due("only promised exceptions from " + text(call) + ", " + got, promised ? 1 : 0, 1);
-            }
-            if (i % 10 == 0) {
-                balanceHolds(house);
-            }
+            int kind = i < 40 ? below(10) : below(15);
+            ask(nextCall(below(5) == 0 ? favourite : kind));
         }
-        compare(house, twin);
+        askAll();
     }
 
-    private int[] nextCall(int now) {
-        int kind = below(14);
-        int second = now + number(0, 30);
+    private void ask(int... call) {
+        Object due = model.call(call);
+        Object got = answer(house, call);
+        check.yes(Arrays.toString(call) + " answered " + got + ", due is " + due, due.equals(got));
+    }
+
+    private void askAll() {
+        for (int kind = 0; kind < TOLD.length; kind++) {
+            for (int i = 0; i < model.count(TOLD_OF[kind]); i++) {
+                for (int what = 0; what < WHATS[kind]; what++) {
+                    ask(TOLD[kind], i, what);
+                }
+            }
+        }
+        for (int i = 0; i < model.count(Model.STEEL); i++) {
+            ask(Model.STEEL_AT, i);
+        }
+        long found = 0;
+        for (int what = 1; what <= 4; what++) {
+            found += house.balance(what);
+        }
+        check.due("made is what is in rooms, out, blown and pressed out", found, house.balance(0));
+    }
+
+    /** Mostly within its bounds, often at them, now and then beyond. */
+    private int number(int least, int most) {
+        switch (below(30)) {
+            case 0: return below(2) == 0 ? least - 1 : most + 1;
+            case 1: return below(2) == 0 ? Integer.MIN_VALUE : Integer.MAX_VALUE;
+            case 2: return least;
+            case 3: return most;
+            default: return least + below(small ? Math.min(30, most - least + 1) : most - least + 1);
+        }
+    }
+
+    /** The number of a thing that there is, or just none. */
+    private int thing(int kind) {
+        int count = model.count(kind);
+        return below(12) == 0 || count == 0 ? below(count + 3) - 1 : below(count);
+    }
+
+    private int place() {
+        return below(6) == 0 ? below(2) - 2 : thing(Model.ROOM);
+    }
+
+    private int second() {
+        int kind = below(30);
+        return kind == 0 ? 100000 : kind == 1 ? 100001 : model.now() + below(10) - (kind == 2 ? 2 : 0);
+    }
+
+    /** Often the very warmth of a room, since limits are reached or just not. */
+    private int limit() {
+        int room = thing(Model.ROOM);
+        if (below(3) == 0 || room < 0 || room >= model.count(Model.ROOM)) {
+            return number(1, 1000);
+        }
+        return (int) model.warmth(room) + below(3) - 1;
+    }
+
+    private int[] nextCall(int kind) {
         switch (kind) {
-            case 0: return new int[] {0, number(1, below(2) == 0 ? 30 : 10000), number(1, 100)};
-            case 1: return new int[] {1, below(11), below(12) - 1, number(1, 50), number(0, 20), number(1, 40)};
-            case 2: return new int[] {2, below(16), number(1, 1000)};
-            case 3: return new int[] {3, below(11), second, number(1, 1000), number(1, 100000), number(0, 1000)};
-            case 4: return new int[] {4, below(11), number(1, 1000)};
-            case 5: return new int[] {5, below(11), second, number(1, below(2) == 0 ? 50 : 100000)};
-            case 6: return new int[] {6, below(11), number(1, 1000)};
-            case 7: return new int[] {7, below(12) - 1};
-            case 8: return new int[] {8, below(10), second, below(12) - 1};
-            case 9: return new int[] {9, number(1, below(8) == 0 ? 500 : 5)};
-            case 10: return new int[] {10, below(11), number(0, 6)};
-            case 11: return new int[] {11, below(16), number(0, 2)};
-            case 12: return new int[] {12, below(10), number(0, 2)};
-            default: return new int[] {13, below(10)};
+            case Model.ROOM: return new int[] {kind, number(1, 10000), number(1, 100)};
+            case Model.OPENING: return new int[] {kind, thing(Model.ROOM), place(), number(1, 50), number(0, 20), number(1, 100)};
+            case Model.GLASS: return new int[] {kind, thing(Model.OPENING), limit()};
+            case Model.FIRE: return new int[] {kind, thing(Model.ROOM), second(), number(1, 1000), number(1, 100000), number(0, 1000)};
+            case Model.SPRINKLER: return new int[] {kind, thing(Model.ROOM), limit()};
+            case Model.FAN: return new int[] {kind, thing(Model.ROOM), second(), number(1, 100000)};
+            case Model.STEEL: return new int[] {kind, thing(Model.ROOM), number(1, 1000)};
+            case Model.PERSON: return new int[] {kind, place()};
+            case Model.GO: return new int[] {kind, favourite == kind ? 0 : thing(Model.PERSON), second(), place()};
+            case Model.RUN: return new int[] {kind, below(20) == 0 ? number(1, 500) : 1 + below(longest)};
+            case Model.ROOM_AT: return new int[] {kind, thing(Model.ROOM), number(0, 6)};
+            case Model.OPENING_AT: return new int[] {kind, thing(Model.OPENING), number(0, 2)};
+            case Model.PERSON_AT: return new int[] {kind, thing(Model.PERSON), number(0, 2)};
+            case Model.STEEL_AT: return new int[] {kind, thing(Model.STEEL)};
+            default: return new int[] {kind, number(0, 4)};
         }
     }
 
@@ -93,63 +138,21 @@ public final class HousesTest {
 
     private static Long call(SmokeZones x, int[] c) {
         switch (c[0]) {
-            case 0: return (long) x.room(c[1], c[2]);
-            case 1: return (long) x.opening(c[1], c[2], c[3], c[4], c[5]);
-            case 2: x.glass(c[1], c[2]); return 0L;
-            case 3: return (long) x.fire(c[1], c[2], c[3], c[4], c[5]);
-            case 4: x.sprinkler(c[1], c[2]); return 0L;
-            case 5: return (long) x.fan(c[1], c[2], c[3]);
-            case 6: return (long) x.steel(c[1], c[2]);
-            case 7: return (long) x.person(c[1]);
-            case 8: x.go(c[1], c[2], c[3]); return 0L;
-            case 9: return (long) x.run(c[1]);
-            case 10: return x.roomAt(c[1], c[2]);
-            case 11: return x.openingAt(c[1], c[2]);
-            case 12: return x.personAt(c[1], c[2]);
-            default: return (long) x.steelAt(c[1]);
+            case Model.ROOM: return (long) x.room(c[1], c[2]);
+            case Model.OPENING: return (long) x.opening(c[1], c[2], c[3], c[4], c[5]);
+            case Model.GLASS: x.glass(c[1], c[2]); return 0L;
+            case Model.FIRE: return (long) x.fire(c[1], c[2], c[3], c[4], c[5]);
+            case Model.SPRINKLER: x.sprinkler(c[1], c[2]); return 0L;
+            case Model.FAN: return (long) x.fan(c[1], c[2], c[3]);
+            case Model.STEEL: return (long) x.steel(c[1], c[2]);
+            case Model.PERSON: return (long) x.person(c[1]);
+            case Model.GO: x.go(c[1], c[2], c[3]); return 0L;
+            case Model.RUN: return (long) x.run(c[1]);
+            case Model.ROOM_AT: return x.roomAt(c[1], c[2]);
+            case Model.OPENING_AT: return x.openingAt(c[1], c[2]);
+            case Model.PERSON_AT: return x.personAt(c[1], c[2]);
+            case Model.STEEL_AT: return (long) x.steelAt(c[1]);
+            default: return x.balance(c[1]);
         }
-    }
-
-    private static long asLong(Object answered) {
-        return answered instanceof Long ? (Long) answered : Long.MIN_VALUE;
-    }
-
-    private static String text(int[] call) {
-        return java.util.Arrays.toString(call);
-    }
-
-    private static void balanceHolds(SmokeZones x) {
-        long all = x.balance(1) + x.balance(2) + x.balance(3) + x.balance(4);
-        check.due("16: made is what is in rooms, out, blown and pressed out", all, x.balance(0));
-        for (int i = 0; i < 10; i++) {
-            int room = i;
-            Object smoke = answer(x, new int[] {10, room, 0});
-            if (smoke instanceof Long) {
-                check.due("no smoke below 0", (Long) smoke >= 0 ? 1 : 0, 1);
-                check.due("no heat below 0", x.roomAt(room, 1) >= 0 ? 1 : 0, 1);
-                check.due("clear not below 0", x.roomAt(room, 4) >= 0 ? 1 : 0, 1);
-                check.due("no heat without smoke", (Long) smoke == 0 && x.roomAt(room, 1) != 0 ? 1 : 0, 0);
-            }
-        }
-    }
-
-    private static void compare(SmokeZones house, SmokeZones twin) {
-        for (int number = 0; number < 16; number++) {
-            for (int what = 0; what < 7; what++) {
-                for (int kind = 10; kind <= 12; kind++) {
-                    same(house, twin, new int[] {kind, number, what});
-                }
-            }
-            same(house, twin, new int[] {13, number});
-        }
-        for (int what = 0; what < 5; what++) {
-            check.due("a twin's balance", house.balance(what), twin.balance(what));
-        }
-    }
-
-    private static void same(SmokeZones house, SmokeZones twin, int[] call) {
-        Object one = answer(house, call);
-        Object other = answer(twin, call);
-        check.due("a twin's answer to " + text(call), one.equals(other) ? 1 : 0, 1);
     }
 }
